@@ -293,7 +293,7 @@ public final class CachehallDesk {
     }
 
     private static void needIndex(int index, int count) {
-        if (!isWithin(index, 0, count - 1)) {
+        if (!isIndex(index, count)) {
             throw new IndexOutOfBoundsException("there is no such one");
         }
     }
@@ -312,6 +312,10 @@ public final class CachehallDesk {
 
     private static boolean isWithin(int number, int least, int most) {
         return number >= least && number <= most;
+    }
+
+    private static boolean isIndex(int index, int count) {
+        return isWithin(index, 0, count - 1);
     }
 
     private static boolean isPartOf(int set, int whole) {
@@ -418,7 +422,9 @@ public final class CachehallDesk {
         }
 
         void changeTrust(int worker, int change) {
-            trust[worker] = Math.max(0, Math.min(MOST_TRUST, trust[worker] + change));
+            if (isIndex(worker, count)) {
+                trust[worker] = Math.max(0, Math.min(MOST_TRUST, trust[worker] + change));
+            }
         }
 
         int allRuns() {
@@ -469,7 +475,7 @@ public final class CachehallDesk {
         int firstHit(Plan plan, Got got, int wanted) {
             for (int e = 0; e < count; e++) {
                 if (action[e] == wanted && state[e] == KEPT
-                        && hasInputsOfNow(plan, e) && hasPrints(plan, got, e)) {
+                        && hasInputsOfNow(plan, e) && hasPrints(plan.actions[wanted], got, e)) {
                     return e;
                 }
             }
@@ -480,6 +486,9 @@ public final class CachehallDesk {
         // as all ENTRIES of an ACTION go when that changes.
         boolean hasInputsOfNow(Plan plan, int entry) {
             int a = action[entry];
+            if (!isIndex(a, plan.count)) {
+                return false;
+            }
             for (int f = 0; f < FILES; f++) {
                 if (has(plan.files[a], f) && contents[entry * FILES + f] != plan.contents[f]) {
                     return false;
@@ -498,9 +507,9 @@ public final class CachehallDesk {
             return changed;
         }
 
-        private boolean hasPrints(Plan plan, Got got, int entry) {
+        private boolean hasPrints(int actions, Got got, int entry) {
             for (int a = 0; a < MOST_ACTIONS; a++) {
-                if (has(plan.actions[action[entry]], a) && prints[entry * MOST_ACTIONS + a] != got.print[a]) {
+                if (has(actions, a) && prints[entry * MOST_ACTIONS + a] != got.print[a]) {
                     return false;
                 }
             }
@@ -772,7 +781,7 @@ public final class CachehallDesk {
         }
 
         private boolean enter(int team, int action, int worker, int print) {
-            if (cache.isFull()) {
+            if (cache.isFull() || !isIndex(team, teams.count)) {
                 return false;
             }
             int room = teams.quota[team] - plan.size[action];
