@@ -37,18 +37,18 @@ public final class CachehallDesk {
 
     private static final long DIGEST_START = 5747;
 
+    private final Builder builder;
     private final Plan plan;
     private final Crew crew;
     private final Teams teams;
     private final Cache cache;
-    private final Builder builder;
 
     public CachehallDesk() {
-        plan = new Plan();
-        crew = new Crew();
-        teams = new Teams();
-        cache = new Cache();
-        builder = new Builder(plan, crew, teams, cache);
+        builder = new Builder();
+        plan = builder.plan;
+        crew = builder.crew;
+        teams = builder.teams;
+        cache = builder.cache;
     }
 
     // ---- what is built
@@ -170,7 +170,8 @@ public final class CachehallDesk {
     public int build(int team, int action) throws IndexOutOfBoundsException, IllegalStateException {
         needIndex(team, teams.count);
         needIndex(action, plan.count);
-        needState(builder.carryOut(team, action));
+        boolean built = builder.carryOut(team, action);
+        needState(built);
         return builder.got.print[action];
     }
 
@@ -686,23 +687,16 @@ public final class CachehallDesk {
 
     // To BUILD and to CHECK (sections 4 and 5).
     private static final class Builder {
-        private final Plan plan;
-        private final Crew crew;
-        private final Teams teams;
-        private final Cache cache;
+        private final Plan plan = new Plan();
+        private final Crew crew = new Crew();
+        private final Teams teams = new Teams();
+        private final Cache cache = new Cache();
         private final Got got = new Got();
         private final Snapshot before = new Snapshot();
         private int checkEvery;
-        // The last RUN that was to CHECK.
+        // The last RUN that was to CHECK: a new ENTRY is made of it, if the old one was WRONG.
         private int checker;
         private int checkedPrint;
-
-        Builder(Plan plan, Crew crew, Teams teams, Cache cache) {
-            this.plan = plan;
-            this.crew = crew;
-            this.teams = teams;
-            this.cache = cache;
-        }
 
         boolean carryOut(int team, int action) {
             before.take(plan, crew, teams, cache);
@@ -755,7 +749,12 @@ public final class CachehallDesk {
         private boolean obtain(int team, int action) {
             int hit = cache.firstHit(plan, got, action);
             if (hit == NONE) {
-                return obtainByRun(team, action);
+                int worker = crew.choose(NONE);
+                if (worker == NONE) {
+                    return false;
+                }
+                int print = crew.runOnce(worker, plan.cost[action], plan.printOf(action, got.print));
+                return enter(team, action, worker, print);
             }
             cache.hits[hit]++;
             teams.saved[team] += plan.cost[action];
@@ -769,15 +768,6 @@ public final class CachehallDesk {
 
         private boolean isCheckDue() {
             return checkEvery > 0 && cache.allHits() % checkEvery == 0;
-        }
-
-        private boolean obtainByRun(int team, int action) {
-            int worker = crew.choose(NONE);
-            if (worker == NONE) {
-                return false;
-            }
-            int print = crew.runOnce(worker, plan.cost[action], plan.printOf(action, got.print));
-            return enter(team, action, worker, print);
         }
 
         private boolean enter(int team, int action, int worker, int print) {
@@ -798,6 +788,7 @@ public final class CachehallDesk {
             return true;
         }
 
+        // The caller has seen by hasInputsOfNow that the ACTION of the ENTRY is there.
         int checkAgain(int entry) {
             int action = cache.action[entry];
             for (int a = 0; a < MOST_ACTIONS; a++) {

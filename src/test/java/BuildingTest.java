@@ -12,10 +12,12 @@ final class BuildingTest {
         goneAndPoisonedAreNoHits();
         tooLargeHasGoneAtOnce();
         aNewEntryMakesRoom();
+        asLargeAsTheQuotaIsKept();
         eachHitOfCheckIsChecked();
         aRightCheckMovesTrustOnly();
         aWrongCheckPoisons();
         aWrongCheckFindsWhatWasLeftOut();
+        whatWasLeftOutIsOfOneActionAlone();
         aCheckMayBeRightThoughSettingsChanged();
         withoutAnotherWorkerNothingIsChecked();
         aFaultyCheckBlamesTheMaker();
@@ -33,6 +35,7 @@ final class BuildingTest {
         ofEntryCountsWhatCameOfIt();
         ofEntryRefuses();
         fromTellsTheEntries();
+        whatWouldComeLeavesNoTrace();
         fromRefuses();
         manyTellsAll();
         manyRefuses();
@@ -226,6 +229,18 @@ final class BuildingTest {
         DUE.is(8, x.ofTeam(0, 1));
     }
 
+    private static void asLargeAsTheQuotaIsKept() {
+        CachehallDesk x = chain(0);
+        x.quota(0, 3);
+        DUE.is(31, x.build(0, 1));
+        // SIZE 2, then 3: that is all of the QUOTA, so the first has gone for it.
+        states(x, 1, 0);
+        DUE.is(3, x.ofTeam(0, 1));
+        x.quota(0, 1);
+        x.build(0, 3);
+        states(x, 1, 1, 0);
+    }
+
     private static void eachHitOfCheckIsChecked() {
         CachehallDesk x = chain(0);
         x.worker(0);
@@ -337,6 +352,24 @@ final class BuildingTest {
         x.set(1, 4);
         DUE.is(24, x.build(0, 0));
         states(x, 2, 1, 0, 0);
+    }
+
+    private static void whatWasLeftOutIsOfOneActionAlone() {
+        CachehallDesk x = leavingOut();
+        x.action(1, 0, 7, 6, 1, 1);
+        x.build(0, 1);
+        x.file(0, 1);
+        x.build(0, 0);
+        x.set(1, 1);
+        DUE.is(2, x.recheck(1));
+        DUE.is(4, x.ofAction(0, 3));
+        DUE.is(6, x.ofAction(1, 3));
+        states(x, 0, 2, 0);
+        x.set(2, 1);
+        DUE.is(2, x.recheck(2));
+        // Those that are POISONED stay so.
+        states(x, 0, 2, 2, 0);
+        DUE.is(0, x.ofAction(0, 3));
     }
 
     private static void aCheckMayBeRightThoughSettingsChanged() {
@@ -691,6 +724,26 @@ final class BuildingTest {
         DUE.is(1, x.from(4, 0));
         DUE.is(1, x.from(5, 0));
         DUE.is(4, x.from(5, 1));
+        // A HIT is told by its own ENTRY, whatever was got in the BUILD before.
+        x.file(0, 1);
+        x.build(0, 0);
+        x.file(0, 0);
+        x.set(0, 2);
+        x.build(0, 1);
+        DUE.is(1, x.ofEntry(7, 0));
+        DUE.is(1, x.from(7, 0));
+    }
+
+    private static void whatWouldComeLeavesNoTrace() {
+        CachehallDesk x = chain(0);
+        DUE.is(3, x.wouldRun(0, 2));
+        x.build(0, 3);
+        x.build(0, 0);
+        x.build(0, 1);
+        // Of what would have come, 1 was from 0, and 2 from both.
+        DUE.is(0, x.ofEntry(0, 7));
+        DUE.is(1, x.ofEntry(1, 7));
+        DUE.is(0, x.ofEntry(2, 7));
     }
 
     private static void fromRefuses() {

@@ -17,6 +17,7 @@ final class WouldBeTest {
         nothingIsChanged();
         digestOfANewObject();
         digestTakesAllInOrder();
+        allAtTheirMost();
         DUE.end();
     }
 
@@ -291,6 +292,32 @@ final class WouldBeTest {
         CachehallDesk y = almostFull();
         y.file(0, 60);
         DUE.is(told(y), y.digest());
+    }
+
+    private static void allAtTheirMost() {
+        CachehallDesk x = new CachehallDesk();
+        for (int n = 0; n < 14; n++) {
+            x.action(1 << n % 8, (1 << n) - 1, 63, 21, 50, 20);
+        }
+        for (int n = 0; n < 4; n++) {
+            x.worker(9 - n);
+            x.team(100);
+        }
+        x.check(1);
+        for (int n = 0; n < 40; n++) {
+            x.file(7, n);
+            try {
+                x.build(n % 4, 13);
+            } catch (IllegalStateException e) {
+                DUE.is(true, x.many(3) > 46);
+            }
+            x.set(n % 6, n % 10);
+        }
+        DUE.is(true, x.many(3) > 46);
+        DUE.is(x.many(4), x.touched(0));
+        DUE.is(x.ofAction(7, 7) + x.ofAction(8, 7) + x.ofAction(9, 7) + x.ofAction(10, 7)
+                + x.ofAction(11, 7) + x.ofAction(12, 7) + x.ofAction(13, 7), x.touched(7));
+        DUE.is(told(x), x.digest());
     }
 
     /** The checksum by the other calls. */
