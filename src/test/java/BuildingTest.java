@@ -68,17 +68,10 @@ final class BuildingTest {
         return x;
     }
 
-    private static void states(CachehallDesk x, int... due) {
-        DUE.is(due.length, x.many(3));
-        for (int entry = 0; entry < due.length; entry++) {
-            DUE.is(due[entry], x.ofEntry(entry, 5));
-        }
-    }
-
     private static void buildGetsAllThatIsReadByNumbers() {
         CachehallDesk x = chain(0);
         DUE.is(527, x.build(0, 2));
-        states(x, 0, 0, 0);
+        DUE.states(x, 0, 0, 0);
         int[] prints = {0, 31, 527};
         for (int entry = 0; entry < 3; entry++) {
             DUE.is(entry, x.ofEntry(entry, 0));
@@ -97,7 +90,7 @@ final class BuildingTest {
         x.build(0, 2);
         DUE.is(31, x.build(1, 1));
         DUE.is(527, x.build(0, 2));
-        states(x, 0, 0, 0);
+        DUE.states(x, 0, 0, 0);
         DUE.is(2, x.ofEntry(0, 4));
         DUE.is(2, x.ofEntry(1, 4));
         DUE.is(1, x.ofEntry(2, 4));
@@ -173,11 +166,11 @@ final class BuildingTest {
         x.set(1, 9);
         x.set(2, 9);
         DUE.is(6, x.build(0, 0));
-        states(x, 0);
+        DUE.states(x, 0);
         x.set(0, 1);
         // 3 * (1 + 2 * 9 + 3 * 9)
         DUE.is(138, x.build(0, 0));
-        states(x, 0, 0);
+        DUE.states(x, 0, 0);
     }
 
     private static void goneAndPoisonedAreNoHits() {
@@ -186,15 +179,15 @@ final class BuildingTest {
         x.quota(0, 0);
         x.quota(0, 100);
         DUE.is(94, x.build(0, 3));
-        states(x, 1, 0);
+        DUE.states(x, 1, 0);
         x.worker(0);
         DUE.is(2, x.recheck(1));
-        states(x, 1, 2, 0);
+        DUE.states(x, 1, 2, 0);
         x.quota(0, 0);
         x.quota(0, 100);
         x.mend(0, 0);
         DUE.is(93, x.build(0, 3));
-        states(x, 1, 2, 1, 0);
+        DUE.states(x, 1, 2, 1, 0);
         DUE.is(0, x.many(7));
     }
 
@@ -203,13 +196,13 @@ final class BuildingTest {
         x.team(4);
         DUE.is(527, x.build(1, 2));
         // SIZES 2, 3, 5 with a QUOTA of 4: the first has gone for the second, the third at once.
-        states(x, 1, 0, 1);
+        DUE.states(x, 1, 0, 1);
         DUE.is(1, x.from(2, 1));
         DUE.is(0, x.from(2, 0));
         DUE.is(3, x.ofTeam(1, 1));
         x.quota(1, 0);
         DUE.is(31, x.build(1, 1));
-        states(x, 1, 1, 1, 1, 1);
+        DUE.states(x, 1, 1, 1, 1, 1);
         DUE.is(3, x.from(4, 0));
     }
 
@@ -218,14 +211,14 @@ final class BuildingTest {
         x.quota(0, 10);
         x.build(0, 2);
         // full to the last: WORTH 50, 66, 2
-        states(x, 0, 0, 0);
+        DUE.states(x, 0, 0, 0);
         x.build(0, 3);
-        states(x, 0, 0, 1, 0);
+        DUE.states(x, 0, 0, 1, 0);
         DUE.is(6, x.ofTeam(0, 1));
         x.build(0, 0);
         x.build(0, 2);
         // HITS of 0 and 1 now; SIZE 5 needs one more to go: WORTH 150, 132, 400
-        states(x, 0, 1, 1, 0, 0);
+        DUE.states(x, 0, 1, 1, 0, 0);
         DUE.is(8, x.ofTeam(0, 1));
     }
 
@@ -234,11 +227,11 @@ final class BuildingTest {
         x.quota(0, 3);
         DUE.is(31, x.build(0, 1));
         // SIZE 2, then 3: that is all of the QUOTA, so the first has gone for it.
-        states(x, 1, 0);
+        DUE.states(x, 1, 0);
         DUE.is(3, x.ofTeam(0, 1));
         x.quota(0, 1);
         x.build(0, 3);
-        states(x, 1, 1, 0);
+        DUE.states(x, 1, 1, 0);
     }
 
     private static void eachHitOfCheckIsChecked() {
@@ -276,7 +269,7 @@ final class BuildingTest {
         x.build(0, 3);
         x.check(1);
         DUE.is(93, x.build(0, 3));
-        states(x, 0);
+        DUE.states(x, 0);
         DUE.is(1, x.ofEntry(0, 4));
         DUE.is(55, x.ofWorker(0, 0));
         DUE.is(50, x.ofWorker(1, 0));
@@ -296,12 +289,12 @@ final class BuildingTest {
         DUE.is(703, x.build(0, 2));
         DUE.is(94, x.build(0, 3));
         DUE.is(1, x.quota(0, 6));
-        states(x, 0, 0, 1, 0);
+        DUE.states(x, 0, 0, 1, 0);
         x.worker(0);
         x.check(1);
         DUE.is(527, x.build(1, 2));
         // 0 was WRONG, so 0 to 2 are POISONED (2 though it had GONE), 3 is not.
-        states(x, 2, 2, 2, 0, 0, 0, 0);
+        DUE.states(x, 2, 2, 2, 0, 0, 0, 0);
         DUE.is(20, x.ofWorker(0, 0));
         DUE.is(3, x.ofWorker(0, 3));
         DUE.is(50, x.ofWorker(1, 0));
@@ -337,7 +330,7 @@ final class BuildingTest {
         x.set(1, 4);
         x.check(1);
         DUE.is(24, x.build(0, 0));
-        states(x, 2, 1, 0);
+        DUE.states(x, 2, 1, 0);
         DUE.is(4, x.ofAction(0, 3));
         DUE.is(50, x.ofWorker(0, 0));
         DUE.is(50, x.ofWorker(1, 0));
@@ -348,10 +341,10 @@ final class BuildingTest {
         DUE.is(24, x.build(0, 0));
         x.set(1, 1);
         DUE.is(87, x.build(0, 0));
-        states(x, 2, 1, 0, 0);
+        DUE.states(x, 2, 1, 0, 0);
         x.set(1, 4);
         DUE.is(24, x.build(0, 0));
-        states(x, 2, 1, 0, 0);
+        DUE.states(x, 2, 1, 0, 0);
     }
 
     private static void whatWasLeftOutIsOfOneActionAlone() {
@@ -364,11 +357,11 @@ final class BuildingTest {
         DUE.is(2, x.recheck(1));
         DUE.is(4, x.ofAction(0, 3));
         DUE.is(6, x.ofAction(1, 3));
-        states(x, 0, 2, 0);
+        DUE.states(x, 0, 2, 0);
         x.set(2, 1);
         DUE.is(2, x.recheck(2));
         // Those that are POISONED stay so.
-        states(x, 0, 2, 2, 0);
+        DUE.states(x, 0, 2, 2, 0);
         DUE.is(0, x.ofAction(0, 3));
     }
 
@@ -381,7 +374,7 @@ final class BuildingTest {
         x.check(1);
         // 2 * 3 is 3 * 2
         DUE.is(18, x.build(0, 0));
-        states(x, 0);
+        DUE.states(x, 0);
         DUE.is(6, x.ofAction(0, 3));
         DUE.is(55, x.ofWorker(0, 0));
     }
@@ -396,7 +389,7 @@ final class BuildingTest {
         DUE.is(50, x.ofWorker(0, 0));
         DUE.is(0, x.recheck(0));
         DUE.is(1, x.many(8));
-        states(x, 0);
+        DUE.states(x, 0);
     }
 
     private static void aFaultyCheckBlamesTheMaker() {
@@ -410,7 +403,7 @@ final class BuildingTest {
         DUE.is(94, x.build(0, 3));
         DUE.is(25, x.ofWorker(0, 0));
         DUE.is(50, x.ofWorker(1, 0));
-        states(x, 2, 0);
+        DUE.states(x, 2, 0);
         DUE.is(1, x.ofEntry(1, 1));
         // Two that fail in the same way are the same.
         CachehallDesk y = chain(1);
@@ -516,7 +509,7 @@ final class BuildingTest {
         x.worker(0);
         DUE.is(2, x.recheck(1));
         // ENTRY 0 is not looked at: of its PRINT 1 the right PRINT of 1 is 41.
-        states(x, 0, 2, 2, 0);
+        DUE.states(x, 0, 2, 2, 0);
         DUE.is(41, x.ofEntry(3, 3));
         DUE.is(1, x.ofEntry(3, 0));
         DUE.is(1, x.ofEntry(3, 1));
@@ -527,7 +520,7 @@ final class BuildingTest {
         DUE.is(55, x.ofWorker(1, 0));
         DUE.is(1, x.ofWorker(0, 4));
         DUE.is(1, x.ofWorker(1, 4));
-        states(x, 0, 2, 2, 0);
+        DUE.states(x, 0, 2, 2, 0);
         // no HIT is counted, nor SAVED or BUILT anything
         DUE.is(0, x.many(7));
         DUE.is(0, x.ofEntry(1, 4));
@@ -547,7 +540,7 @@ final class BuildingTest {
         DUE.is(2, x.recheck(1));
         DUE.is(32, x.ofEntry(4, 3));
         DUE.is(0, x.from(4, 0));
-        states(x, 0, 2, 2, 0, 0);
+        DUE.states(x, 0, 2, 2, 0, 0);
         // So it is a HIT once the PRINT of 0 is what it was.
         x.file(0, 0);
         DUE.is(32, x.build(0, 1));
@@ -571,11 +564,11 @@ final class BuildingTest {
         y.build(1, 3);
         y.build(1, 0);
         y.worker(0);
-        states(y, 0, 0);
+        DUE.states(y, 0, 0);
         DUE.is(2, y.recheck(0));
-        states(y, 2, 0, 0);
+        DUE.states(y, 2, 0, 0);
         DUE.is(2, y.recheck(1));
-        states(y, 2, 2, 0, 0);
+        DUE.states(y, 2, 2, 0, 0);
         DUE.is(3, y.ofTeam(1, 1));
     }
 
@@ -587,7 +580,7 @@ final class BuildingTest {
         x.set(1, 1);
         x.set(2, 1);
         DUE.is(2, x.recheck(1));
-        states(x, 1, 2, 0);
+        DUE.states(x, 1, 2, 0);
         DUE.is(0, x.ofAction(0, 3));
         DUE.is(22, x.ofEntry(2, 3));
         DUE.is(50, x.ofWorker(0, 0));
@@ -622,7 +615,7 @@ final class BuildingTest {
         x.file(7, 5);
         DUE.is(1, x.recheck(1));
         x.quota(0, 5);
-        states(x, 0, 0, 1);
+        DUE.states(x, 0, 0, 1);
         DUE.refuses(Due.STATE, () -> x.recheck(2));
         x.mend(1, 1);
         DUE.is(2, x.recheck(0));
@@ -690,7 +683,7 @@ final class BuildingTest {
         }
         y.worker(0);
         DUE.is(2, y.recheck(2));
-        states(y, 0, 0, 2, 2, 2, 0);
+        DUE.states(y, 0, 0, 2, 2, 2, 0);
         DUE.is(5, y.ofEntry(0, 7));
         DUE.is(4, y.ofEntry(1, 7));
         DUE.is(2, y.ofEntry(2, 7));

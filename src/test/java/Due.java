@@ -30,6 +30,14 @@ final class Due {
         tell(got + ", due is " + kind.getName());
     }
 
+    /** How many ENTRIES there are, and of each whether it is KEPT (0), has GONE (1), or is POISONED (2). */
+    void states(CachehallDesk x, int... due) {
+        is(due.length, x.many(3));
+        for (int entry = 0; entry < due.length; entry++) {
+            is(due[entry], x.ofEntry(entry, 5));
+        }
+    }
+
     void tell(String what) {
         wrong++;
         StackTraceElement asked = null;
