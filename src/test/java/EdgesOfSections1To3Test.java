@@ -53,6 +53,7 @@ final class EdgesOfSections1To3Test {
         valuesOfTheSettingsThatItReads();
         butThoseThatAreLeftOut();
         printsThatWereGotOfTheActions();
+        theEntriesFromWhichThosePrintsWereGot();
         keptGoneOrPoisoned();
     }
 
@@ -456,6 +457,16 @@ final class EdgesOfSections1To3Test {
         // 3 and 0, 3 and 2
         DUE.is(1, x.ofEntry(1, 1));
         DUE.is(1, x.ofEntry(2, 1));
+        // 3 and 3, and then 4 and 3, 4 and 5
+        x.file(2, 1);
+        x.build(0, 2);
+        DUE.is(0, x.ofEntry(3, 1));
+        x.file(1, 1);
+        x.build(0, 1);
+        DUE.is(1, x.ofEntry(4, 1));
+        x.file(2, 2);
+        x.build(0, 2);
+        DUE.is(0, x.ofEntry(5, 1));
     }
 
     /** Then the smallest number. */
@@ -585,6 +596,25 @@ final class EdgesOfSections1To3Test {
             }
             DUE.is(0, x.wouldRun(0, 4));
         }
+    }
+
+    /** With the ENTRIES from which those PRINTS were got: by a RUN, or by a HIT, whatever was got before. */
+    private static void theEntriesFromWhichThosePrintsWereGot() {
+        CachehallDesk x = Halls.withWorkers(Halls.plain(1, 1, 1, 100), 0);
+        x.action(2, 1, 0, 0, 1, 1);
+        x.build(0, 1);
+        DUE.is(0, x.from(1, 0));
+        x.file(0, 1);
+        x.build(0, 0);
+        x.file(0, 0);
+        x.file(1, 1);
+        x.build(0, 1);
+        DUE.is(0, x.from(3, 0));
+        x.file(0, 1);
+        x.build(0, 1);
+        DUE.is(2, x.from(4, 0));
+        DUE.is(2, x.ofEntry(0, 7));
+        DUE.is(1, x.ofEntry(2, 7));
     }
 
     /** An ENTRY is KEPT (0), has GONE (1), or is POISONED (2): only the first is a HIT. */

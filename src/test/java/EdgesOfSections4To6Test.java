@@ -40,6 +40,7 @@ final class EdgesOfSections4To6Test {
         andSoOnKeptOrGone();
         theNewEntryIsForTheTeamThatBuilds();
         theNewEntryIsTooLargeForTheTeamThatBuilds();
+        theNewEntryTakesThePlaceOfThePoisonedOne();
     }
 
     private static void quotas() {
@@ -585,6 +586,24 @@ final class EdgesOfSections4To6Test {
         DUE.is(1, x.ofTeam(1, 1));
     }
 
+    /** The ENTRY is POISONED; and what the RUN gave is a new ENTRY: of a full TEAM none else goes for it. */
+    private static void theNewEntryTakesThePlaceOfThePoisonedOne() {
+        for (int team = 0; team < 2; team++) {
+            CachehallDesk x = Halls.withWorkers(Halls.plain(3, 1, 10, 20), 0);
+            x.team(10);
+            x.build(0, 0);
+            x.build(0, 1);
+            x.build(1, 2);
+            x.worker(1);
+            x.check(1);
+            DUE.is(32, x.build(team, 1));
+            // For the other TEAM, that is full, its own one goes.
+            DUE.states(x, 0, 2, team == 0 ? 0 : 1, 0);
+            DUE.is(team == 0 ? 20 : 10, x.ofTeam(0, 1));
+            DUE.is(10, x.ofTeam(1, 1));
+        }
+    }
+
     // ---- 6. Quotas
 
     /** At most 4 TEAMS, numbered from 0. */
@@ -749,8 +768,9 @@ final class EdgesOfSections4To6Test {
 
     /** WORTH is COST * (HITS + 1) * 10 / SIZE, and / is cut towards 0. */
     private static void worthIsCutTowards0() {
-        int[][] cases = {{1, 20, 0, 1, 1, 2, 2}, {1, 11, 0, 1, 2, 3, 4}, {1, 10, 1, 2, 3, 4, 5}, {19, 20, 9, 19, 28, 38, 47},
-            {1, 1, 10, 20, 30, 40, 50}, {2, 7, 2, 5, 8, 11, 14}};
+        // COST, SIZE, and the WORTH with 0 to 4 HITS
+        int[][] cases = {{1, 20, 0, 1, 1, 2, 2}, {1, 11, 0, 1, 2, 3, 4}, {1, 10, 1, 2, 3, 4, 5},
+            {19, 20, 9, 19, 28, 38, 47}, {1, 1, 10, 20, 30, 40, 50}, {2, 7, 2, 5, 8, 11, 14}};
         for (int[] one : cases) {
             CachehallDesk x = Halls.withWorkers(Halls.plain(1, one[0], one[1], 100), 0);
             for (int hits = 0; hits < 5; hits++) {

@@ -1,3 +1,5 @@
+import java.util.function.Supplier;
+
 /** Promises 19 to 23: what would be, and the checksum. Nothing is changed by these. */
 final class WouldBeTest {
     private static final Due DUE = new Due();
@@ -241,28 +243,41 @@ final class WouldBeTest {
         }
     }
 
-    private static void nothingIsChanged() {
+    private static CachehallDesk busy() {
         CachehallDesk x = chain(2);
         x.worker(0);
         x.build(0, 2);
         x.quota(0, 10);
         x.set(0, 1);
         x.check(1);
-        long before = told(x);
-        for (int n = 0; n < 3; n++) {
-            for (int action = 0; action < 4; action++) {
-                x.wouldRun(0, action);
-                DUE.is(before, told(x));
-                x.wouldBeWrong(0, action);
-                DUE.is(before, told(x));
-            }
-            x.wouldGo(0, 1 + 5 * n);
-            DUE.is(before, told(x));
-            x.touched(n);
-            x.digest();
-            DUE.is(before, told(x));
+        return x;
+    }
+
+    private static void nothingIsChanged() {
+        long before = Halls.checksum(WouldBeTest::busy).longValue();
+        for (int number = 0; number < 4; number++) {
+            int asked = number;
+            DUE.is(before, Halls.checksum(() -> {
+                CachehallDesk x = busy();
+                x.wouldRun(0, asked);
+                return x;
+            }).longValue());
+            DUE.is(before, Halls.checksum(() -> {
+                CachehallDesk x = busy();
+                x.wouldBeWrong(0, asked);
+                return x;
+            }).longValue());
+            DUE.is(before, Halls.checksum(() -> {
+                CachehallDesk x = busy();
+                x.wouldGo(0, 1 + 5 * asked);
+                x.touched(asked);
+                x.digest();
+                return x;
+            }).longValue());
         }
-        DUE.is(1, x.check(1));
+        CachehallDesk y = busy();
+        y.wouldRun(0, 2);
+        DUE.is(1, y.check(1));
     }
 
     private static void digestOfANewObject() {
@@ -273,28 +288,36 @@ final class WouldBeTest {
         DUE.is(due, new CachehallDesk().digest());
     }
 
-    private static void digestTakesAllInOrder() {
-        CachehallDesk x = chain(2);
-        DUE.is(told(x), x.digest());
-        x.worker(0);
-        x.team(7);
-        DUE.is(told(x), x.digest());
-        x.build(0, 2);
-        x.build(1, 3);
-        DUE.is(told(x), x.digest());
-        x.check(1);
-        x.set(0, 1);
-        DUE.is(told(x), x.digest());
-        x.build(1, 2);
-        x.file(0, 9);
-        x.build(1, 2);
-        DUE.is(told(x), x.digest());
-        CachehallDesk y = almostFull();
-        y.file(0, 60);
-        DUE.is(told(y), y.digest());
+    private static void digestIsAsDue(Supplier<CachehallDesk> made) {
+        DUE.is(Halls.checksum(made).longValue(), made.get().digest());
     }
 
-    private static void allAtTheirMost() {
+    private static void digestTakesAllInOrder() {
+        digestIsAsDue(() -> chain(2));
+        digestIsAsDue(WouldBeTest::busy);
+        digestIsAsDue(() -> {
+            CachehallDesk x = busy();
+            x.team(7);
+            x.build(0, 2);
+            x.build(1, 3);
+            return x;
+        });
+        digestIsAsDue(() -> {
+            CachehallDesk x = busy();
+            x.team(7);
+            x.build(1, 2);
+            x.file(0, 9);
+            x.build(1, 2);
+            return x;
+        });
+        digestIsAsDue(() -> {
+            CachehallDesk x = almostFull();
+            x.file(0, 60);
+            return x;
+        });
+    }
+
+    private static CachehallDesk atItsMost() {
         CachehallDesk x = new CachehallDesk();
         for (int n = 0; n < 14; n++) {
             x.action(1 << n % 8, (1 << n) - 1, 63, 21, 50, 20);
@@ -313,45 +336,15 @@ final class WouldBeTest {
             }
             x.set(n % 6, n % 10);
         }
+        return x;
+    }
+
+    private static void allAtTheirMost() {
+        CachehallDesk x = atItsMost();
         DUE.is(true, x.many(3) > 46);
         DUE.is(x.many(4), x.touched(0));
         DUE.is(x.ofAction(7, 7) + x.ofAction(8, 7) + x.ofAction(9, 7) + x.ofAction(10, 7)
                 + x.ofAction(11, 7) + x.ofAction(12, 7) + x.ofAction(13, 7), x.touched(7));
-        DUE.is(told(x), x.digest());
-    }
-
-    /** The checksum by the other calls. */
-    private static long told(CachehallDesk x) {
-        long d = 5747;
-        for (int what = 0; what <= 9; what++) {
-            d = d * 31 + x.many(what);
-        }
-        for (int n = 0; n < x.many(0); n++) {
-            for (int what = 0; what <= 7; what++) {
-                d = d * 31 + x.ofAction(n, what);
-            }
-        }
-        for (int n = 0; n < x.many(1); n++) {
-            for (int what = 0; what <= 4; what++) {
-                d = d * 31 + x.ofWorker(n, what);
-            }
-        }
-        for (int n = 0; n < x.many(2); n++) {
-            for (int what = 0; what <= 4; what++) {
-                d = d * 31 + x.ofTeam(n, what);
-            }
-            for (int action = 0; action < x.many(0); action++) {
-                d = d * 31 + x.wouldRun(n, action);
-            }
-        }
-        for (int n = 0; n < x.many(3); n++) {
-            for (int what = 0; what <= 7; what++) {
-                d = d * 31 + x.ofEntry(n, what);
-            }
-        }
-        for (int n = 0; n < 8; n++) {
-            d = d * 31 + x.touched(n);
-        }
-        return d;
+        digestIsAsDue(WouldBeTest::atItsMost);
     }
 }
